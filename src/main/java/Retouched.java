@@ -852,7 +852,10 @@ public final class Retouched {
         }
 
         private static int held(long number) {
-            return (int) Math.max(-MOST_NUMBER, Math.min(MOST_NUMBER, number));
+            if (number > MOST_NUMBER) {
+                return MOST_NUMBER;
+            }
+            return number < -MOST_NUMBER ? -MOST_NUMBER : (int) number;
         }
     }
 
@@ -1031,7 +1034,8 @@ public final class Retouched {
             if (!reader.isNumberHere(0, VALUE - 1)) {
                 return false;
             }
-            code.add(reader.takeValue());
+            code.add(reader.value);
+            reader.advance();
             return true;
         }
 

@@ -227,8 +227,8 @@ public final class AheadTest {
             "terrace 4;soul a at 3 face 5 kind 0;soul b at 1 face 7 kind 0;soul c at 2 face 8 kind 0;thinks a of b 9;"
                     + "thinks a of c 2;thinks b of a 7;thinks b of c 8;thinks c of a 7;thinks c of b 1;paints 9*thinks;minds 5-gain;"};
         for (String text : texts) {
+            Retouched x = Check.told(text);
             for (int n = 1; n <= 3; n++) {
-                Retouched x = Check.told(text);
                 int[][] looks = new int[8][3];
                 for (int set = 0; set < 8; set++) {
                     for (int p = 0; p < 3; p++) {
@@ -239,6 +239,8 @@ public final class AheadTest {
                     }
                 }
                 CHECK.due("rest(" + n + ") of " + text, x.rest(n), first(looks));
+                x.right(0);
+                x.years(1);
             }
         }
     }

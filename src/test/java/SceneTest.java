@@ -224,6 +224,9 @@ public final class SceneTest {
         feud("not all", 0);
         feud("all", 1);
         feud(no + " or " + no + " or " + yes, 1);
+        feud(yes + " or " + no + " or " + no, 1);
+        feud(no + " or " + yes + " or " + no, 1);
+        feud(no + " and " + yes + " and " + yes, 0);
         feud(yes + " and " + yes + " and " + no, 0);
         feud(no + " or " + yes + " and " + yes + " or " + no, 1);
         feud("2<2", 0);

@@ -118,6 +118,12 @@ public final class SeenTest {
         CHECK.due("tells(1, 0, 1) without a thought", x.tells(1, 0, 1), -1);
         Check.see(x, 10, 0, 99);
         CHECK.due("tells(1, 0, 1) of three", x.tells(1, 0, 1), 1);
+        for (int only = 0; only <= 9; only++) {
+            Check.see(x, 1, 0, 30 + only);
+            CHECK.due("thoughts(1, 0) of " + only, x.thoughts(1, 0), 1 << only);
+            CHECK.due("tells(1, 0, 0) of " + only, x.tells(1, 0, 0), 1);
+            CHECK.due("tells(1, 0, 1) of " + only, x.tells(1, 0, 1), 1);
+        }
         // A step of four: 0 to 3, 4 to 7, 8 and 9 are alike in the first year and ever on.
         x = Check.told(THREE + "paints look+thinks/4;");
         CHECK.due("tells(1, 0, 0) by steps", x.tells(1, 0, 0), 1);

@@ -14,6 +14,8 @@ public final class TerraceTest {
         manyStatements();
         refusedTerrace();
         newTerrace();
+        manyTerraces();
+        longestTexts();
         faultCall();
         letters();
         CHECK.finish();
@@ -198,6 +200,9 @@ public final class TerraceTest {
         fault(4, "terrace 5;paints min(max(min(max(min(max(min|(1,1),1),1),1),1),1),1);");
         fault(4, "terrace 5;paints ((((((1+max |(1,2)))))));");
         fault(1, "terrace 5;paints ((((((1|(1)))))));");
+        sound("terrace 5;paints min(1,(((((2))))));", 2);
+        fault(4, "terrace 5;paints min(1,(((((|(2)))))));");
+        sound("terrace 5;paints min((1),(1))+min((((((1))))),(((((1))))));", 2);
         sound("terrace 5;feud not not not not not not all;", 2);
         fault(4, "terrace 5;feud not not not not not not |not all;");
         fault(4, "terrace 5;feud not not not not not not |[all];");
@@ -280,6 +285,71 @@ public final class TerraceTest {
         CHECK.due("octet(1) stays", x.octet(1), 3);
         // Without a word of slip in the second there is none.
         CHECK.due("chance(9)", x.chance(9), 0);
+    }
+
+    /** The texts on one object have nothing to do with one another, faulty ones neither. */
+    private static void manyTerraces() {
+        Retouched x = new Retouched();
+        String three = "terrace 3;soul a at 0 face 1 kind 1;soul b at 1 face 2 kind 1;soul c at 2 face 3 kind 1;";
+        for (int i = 0; i < 3; i++) {
+            CHECK.due("terrace() " + i, Check.terrace(x, three + "paints 7;minds 7;feud all;slip 100;"), 8);
+            CHECK.due("paints(0, 1) " + i, x.paints(0, 1), 7);
+            CHECK.due("feud(0) " + i, x.feud(0), 1);
+            CHECK.due("chance(1) " + i, x.chance(1), 1);
+            CHECK.due("thinks(0, 1) " + i, x.thinks(0, 1), 7);
+            CHECK.due("terrace() with a fault", Check.terrace(x, "terrace 3;soul a at 1 face 9 kind 9;paints look"), -1);
+            CHECK.due("terrace() with a fault at a word", Check.terrace(x, "terrace 3;soul soul"), -1);
+            CHECK.due("terrace() with a fault at a number", Check.terrace(x, "terrace 10"), -1);
+            CHECK.due("paints(0, 1) stays " + i, x.paints(0, 1), 7);
+            for (int again = 0; again < 2; again++) {
+                CHECK.due("terrace() of fewer", Check.terrace(x, "terrace 3;soul b at 2 face 4 kind 1;"), 2);
+                CHECK.due("has(1) of fewer", x.has(1), 1);
+                CHECK.due("house(0) of fewer", x.house(0), -1);
+                CHECK.due("chance(1) of fewer", x.chance(1), 0);
+                CHECK.due("thinks of those who are no more", Check.ask(x, "total thinks 1+back 1"), 0);
+            }
+            CHECK.due("terrace() untold " + i, Check.terrace(x, three), 4);
+            CHECK.due("paints(0, 1) untold " + i, x.paints(0, 1), 10);
+            CHECK.due("feud(0) untold " + i, x.feud(0), 0);
+            CHECK.due("thinks(0, 1) untold " + i, x.thinks(0, 1), 5);
+        }
+    }
+
+    /** The whole tape is one sum, more than once on one object. */
+    private static void longestTexts() {
+        Retouched x = new Retouched();
+        String two = "terrace 2;soul a at 0 face 1 kind 1;soul b at 1 face 2 kind 1;";
+        StringBuilder text = new StringBuilder(two).append("paints look");
+        while (text.length() < 1596) {
+            text.append("+2-1");
+        }
+        int due = 10 + (text.length() - two.length() - 11) / 4;
+        text.append(text.length() < 1598 ? "-0;" : ";");
+        for (int i = 0; i < 2; i++) {
+            CHECK.due("terrace() of " + text.length() + " bytes", Check.terrace(x, text.toString()), 4);
+            CHECK.due("paints(0, 1)", x.paints(0, 1), Math.min(99, due));
+            CHECK.due("feud(0) untold", x.feud(0), 0);
+        }
+        Retouched y = Check.told(two);
+        StringBuilder question = new StringBuilder("total 1");
+        while (question.length() < 1599) {
+            question.append("+1");
+        }
+        for (int i = 0; i < 3; i++) {
+            CHECK.due("ask() of " + question.length() + " bytes", Check.ask(y, question.toString()), 2 * (1 + (question.length() - 7) / 2));
+        }
+        // Numbers wait at every level, the deepest there is.
+        String sum = "7";
+        int worth = 7;
+        String test = "all";
+        for (int level = 0; level < 6; level++) {
+            sum = "9-2*max(0-99," + sum + ")";
+            worth = 9 - 2 * Math.max(-99, worth);
+            test = "2<1 or 1<2 and [" + test + "]";
+        }
+        CHECK.due("feud(0) of a deep sum", Check.told(two + "feud " + worth + "=" + sum + ";").feud(0), 1);
+        CHECK.due("feud(0) of a deep test", Check.told(two + "feud " + test + ";").feud(0), 1);
+        CHECK.due("feud(0) of a deep test", Check.told(two + "feud " + test.replace("all", "2<1") + ";").feud(0), 0);
     }
 
     private static void faultCall() {
