@@ -300,6 +300,7 @@ public final class TerraceTest {
             CHECK.due("terrace() with a fault", Check.terrace(x, "terrace 3;soul a at 1 face 9 kind 9;paints look"), -1);
             CHECK.due("terrace() with a fault at a word", Check.terrace(x, "terrace 3;soul soul"), -1);
             CHECK.due("terrace() with a fault at a number", Check.terrace(x, "terrace 10"), -1);
+            CHECK.due("fault(0) of that number", x.fault(0), 2);
             CHECK.due("paints(0, 1) stays " + i, x.paints(0, 1), 7);
             for (int again = 0; again < 2; again++) {
                 CHECK.due("terrace() of fewer", Check.terrace(x, "terrace 3;soul b at 2 face 4 kind 1;"), 2);
