@@ -75,6 +75,27 @@ final class Check {
         return bytes;
     }
 
+    /** It becomes that year, by an image; nothing is kept or can be undone behind it. */
+    static void toYear(Retouched x, int year) {
+        int[] bytes = image(x);
+        bytes[0] = year / 256;
+        bytes[1] = year % 256;
+        PictureTest.mend(bytes);
+        if (!on(x, bytes) || x.has(2) != year) {
+            throw new IllegalStateException("no way to the year " + year);
+        }
+    }
+
+    /** A row of houses with people in the first ones, a, b, c and so on, all of one face and one kind. */
+    static String row(int houses, int people, int face, int kind) {
+        StringBuilder text = new StringBuilder("terrace ").append(houses).append(';');
+        for (int i = 0; i < people; i++) {
+            text.append("soul ").append((char) ('a' + i)).append(" at ").append(i);
+            text.append(" face ").append(face).append(" kind ").append(kind).append(';');
+        }
+        return text.toString();
+    }
+
     static boolean on(Retouched x, int... bytes) {
         tape(x, 0, bytes);
         return x.on();

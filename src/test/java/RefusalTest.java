@@ -21,6 +21,7 @@ public final class RefusalTest {
     private static final Twins[] STANDING = {TOLD, PLAYED, FULL, LAST};
 
     public static void main(String[] args) {
+        states();
         feed();
         end();
         terrace();
@@ -94,6 +95,19 @@ public final class RefusalTest {
         x.image();
         Check.text(x, "total look*7+house");
         return x;
+    }
+
+    /** That the states are what they are called: nothing there yet, something, all places taken, the last year. */
+    private static void states() {
+        int[][] due = {{0, 0, 0, 0, 0}, {3, 0, 0, 0, 0}, {3, 15, -1, 2, 5}, {3, 200, 40, 16, 20}, {3, 999, 40, 1, 10}};
+        Retouched[] states = {fresh(), told(), played(), full(), last()};
+        int[] whats = {1, 2, 7, 8, 9};
+        for (int i = 0; i < states.length; i++) {
+            for (int k = 0; k < whats.length; k++) {
+                int got = states[i].has(whats[k]);
+                CHECK.due("has(" + whats[k] + ") of state " + i, got, due[i][k] < 0 ? Math.max(1, Math.min(39, got)) : due[i][k]);
+            }
+        }
     }
 
     private static long number(boolean answer) {
