@@ -136,6 +136,11 @@ public final class AheadEdgesTest {
         CHECK.due("changed(1, 2) by one", x.changed(1, 2), 101);
         CHECK.due("changed(1, 0) by one", x.changed(1, 0), 0);
         CHECK.due("changed(1, 1) by one", x.changed(1, 1), 1);
+        // What was found by one call is nothing to the next.
+        CHECK.due("stranger(1, 1, 1, 0) without an empty house", x.stranger(1, 1, 1, 0), -1);
+        CHECK.due("stranger(1, 1, 1, 1) without an empty house", x.stranger(1, 1, 1, 1), -1);
+        x.change(0, 1);
+        CHECK.due("changed(1, 1) by nothing once more", x.changed(1, 1), -1);
         for (int people = 0; people <= 1; people++) {
             CHECK.due("changed(1, 0) of " + people, Check.told(Check.row(9, people, 5, 1) + "paints 0;").changed(1, 0), -1);
         }

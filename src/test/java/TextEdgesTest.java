@@ -31,6 +31,7 @@ public final class TextEdgesTest {
         depthOfQuestions();
         held();
         divided();
+        signs();
         untoldRules();
         questionsOfNobody();
         thoughtsOfNone();
@@ -594,6 +595,25 @@ public final class TextEdgesTest {
         CHECK.due("feud(0) by 0", x.feud(0), 1);
         x.years(1);
         CHECK.due("thinks(0, 1) by 0", x.thinks(0, 1), 0);
+    }
+
+    /** "SUM SIGN SUM, SIGN < or > or =": one less, as much, one more; below 0, too. */
+    private static void signs() {
+        for (int left = 4; left <= 6; left++) {
+            answer("often " + left + "<5", left < 5 ? 2 : 0);
+            answer("often " + left + ">5", left > 5 ? 2 : 0);
+            answer("often " + left + "=5", left == 5 ? 2 : 0);
+            answer("often 0-" + left + "<0-5", left > 5 ? 2 : 0);
+            answer("often 0-" + left + ">0-5", left < 5 ? 2 : 0);
+            answer("often 0-" + left + "=0-5", left == 5 ? 2 : 0);
+            CHECK.due("feud(0) of " + left, Check.told(TWO + "feud " + left + ">5;").feud(0), left > 5 ? 1 : 0);
+        }
+        // 'and' binds more than 'or', 'not' its FACT alone.
+        answer("often all or all and not all", 2);
+        answer("often not all and all or all", 2);
+        answer("often [all or all]and not all", 0);
+        answer("often not all or all", 2);
+        answer("often not[all or all]", 0);
     }
 
     /** "Without: paints is look, minds is thinks, feud is thinks + back < 6". */

@@ -29,6 +29,7 @@ public final class YearEdgesTest {
         lastYear();
         draws();
         belowSlip();
+        untoldSlip();
         slipsOfNobody();
         slipsAheadOfTheYear();
         undo();
@@ -564,6 +565,26 @@ public final class YearEdgesTest {
             x.seed(seed);
             CHECK.due("chance(1) of slip " + (drawn + 1), x.chance(1), 1);
         }
+    }
+
+    /** "0 without": no draw is below it, not even 0. */
+    private static void untoldSlip() {
+        int seen = 0;
+        for (int seed = 0; seed < 1000; seed++) {
+            if (new Draws(seed).draw(100) == 0) {
+                seen++;
+                Retouched x = Check.told(Check.row(2, 1, 1, 1));
+                x.seed(seed);
+                CHECK.due("chance(1) without slip", x.chance(1), 0);
+                Check.terrace(x, Check.row(2, 1, 1, 1) + "slip 1;");
+                x.seed(seed);
+                CHECK.due("chance(1) of slip 1", x.chance(1), 1);
+                Check.terrace(x, Check.row(2, 1, 1, 1));
+                x.seed(seed);
+                CHECK.due("chance(1) without slip behind it", x.chance(1), 0);
+            }
+        }
+        CHECK.due("seeds that draw 0", seen > 0, true);
     }
 
     /** "if there are PEOPLE": a draw each year all the same, and no slip. */
