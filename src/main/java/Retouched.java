@@ -1451,7 +1451,7 @@ public final class Retouched {
 
         /** 0 of himself, and of or by those that there are not, as questions have it. */
         int thoughtOf(int person, int of) {
-            boolean areThere = person >= 0 && person < people && of >= 0 && of < people;
+            boolean areThere = person >= 0 && person < people && of >= 0 && of < people && people <= MOST_PEOPLE;
             return areThere && person != of ? minded[person * MOST_PEOPLE + of] : 0;
         }
 
