@@ -12,6 +12,10 @@ public final class YearEdgesTest {
         tape();
         leastCounts();
         mostCounts();
+        houses();
+        people();
+        thoughts();
+        paints();
         firstPortraits();
         curtains();
         heldPortraits();
@@ -145,6 +149,84 @@ public final class YearEdgesTest {
         CHECK.due("has(6) of eight curtains", x.has(6), 0);
         Check.toYear(x, 999);
         CHECK.due("has(2)", x.has(2), 999);
+    }
+
+    /** "Who lives in a HOUSE; NONE when it is empty, or there is none such." */
+    private static void houses() {
+        for (int houses = 2; houses <= 9; houses++) {
+            for (int lived = 0; lived < houses; lived++) {
+                Retouched x = Check.told("terrace " + houses + ";soul a at " + lived + " face 1 kind 1;");
+                for (int h = -1; h <= 10; h++) {
+                    CHECK.due("house(" + h + ") of " + houses, x.house(h), h == lived ? 0 : -1);
+                }
+                CHECK.due("house(least)", x.house(LEAST), -1);
+                CHECK.due("house(most)", x.house(MOST), -1);
+            }
+        }
+    }
+
+    /** "5, 6 his NEIGHBOUR at the HOUSE less, more by one (NONE). NONE when there is none such, or for others." */
+    private static void people() {
+        Retouched x = Check.told(Check.row(9, 8, 9, 0));
+        for (int p = -1; p <= 8; p++) {
+            boolean isThere = p >= 0 && p < 8;
+            int[] due = {p, 90, 9, 0, 0, p - 1, p == 7 ? -1 : p + 1};
+            for (int what = -1; what <= 7; what++) {
+                boolean canBe = isThere && what >= 0 && what < 7;
+                CHECK.due("person(" + p + ", " + what + ")", x.person(p, what), canBe ? due[what] : -1);
+            }
+        }
+        // In a full row the first and the last house have nobody beyond them.
+        x = Check.told(Check.row(2, 2, 0, 9));
+        int[][] due = {{0, 0, 0, 9, 0, -1, 1}, {1, 0, 0, 9, 0, 0, -1}};
+        for (int p = 0; p < 2; p++) {
+            for (int what = 0; what < 7; what++) {
+                CHECK.due("person(" + p + ", " + what + ") of two", x.person(p, what), due[p][what]);
+            }
+        }
+        for (int n : new int[] {LEAST, MOST}) {
+            CHECK.due("person(" + n + ", 0)", x.person(n, 0), -1);
+            CHECK.due("person(0, " + n + ")", x.person(0, n), -1);
+        }
+    }
+
+    /** "What a PERSON thinks of another one; NONE when there are none such, or they are one." */
+    private static void thoughts() {
+        StringBuilder text = new StringBuilder(Check.row(9, 8, 1, 1));
+        for (int p = 0; p < 8; p++) {
+            text.append("thinks ").append((char) ('a' + p)).append(" of ").append((char) ('a' + (p + 1) % 8)).append(' ').append(p + 1).append(';');
+        }
+        Retouched x = Check.told(text.toString());
+        for (int p = -1; p <= 8; p++) {
+            for (int of = -1; of <= 8; of++) {
+                boolean areTwo = p >= 0 && p < 8 && of >= 0 && of < 8 && p != of;
+                int due = of == (p + 1) % 8 ? p + 1 : 5;
+                CHECK.due("thinks(" + p + ", " + of + ")", x.thinks(p, of), areTwo ? due : -1);
+            }
+        }
+        x = Check.told(Check.row(9, 1, 1, 1));
+        CHECK.due("thinks(0, 0) of one", x.thinks(0, 0), -1);
+        CHECK.due("thinks(0, 1) of one", x.thinks(0, 1), -1);
+        CHECK.due("thinks(1, 0) of one", x.thinks(1, 0), -1);
+    }
+
+    /** "(side 0, 1; also by one who SPARES); NONE when none is there, there is none such, or for others". */
+    private static void paints() {
+        Retouched x = Check.told(Check.row(9, 8, 3, 1) + "paints look+1+side;");
+        for (int spared = 0; spared < 2; spared++) {
+            for (int p = -1; p <= 8; p++) {
+                for (int side = -1; side <= 2; side++) {
+                    boolean isThere = p >= 0 && p < 8 && (side == 0 && p > 0 || side == 1 && p < 7);
+                    CHECK.due("paints(" + p + ", " + side + ")", x.paints(p, side), isThere ? 31 + side : -1);
+                }
+            }
+            for (int p = 0; p < 8; p++) {
+                x.spare(p, 1);
+            }
+        }
+        CHECK.due("has(6), all of it stays", x.has(6), 240);
+        CHECK.due("paints(least, 0)", x.paints(LEAST, 0), -1);
+        CHECK.due("paints(0, most)", x.paints(0, MOST), -1);
     }
 
     /** "at first it is 10 times the true face". */
