@@ -198,6 +198,13 @@ public final class AheadEdgesTest {
         // He paints, by his kind: a gains 7 by him, and gives him as much back.
         x = Check.told("terrace 2;soul a at 0 face 1 kind 0;paints look+kind+thinks-5;minds gain;");
         CHECK.due("stranger(3, 7, 1, 1)", x.stranger(3, 7, 1, 1), 32);
+        // He does so in a later year, too, and where another one of his number spared in a terrace before.
+        x.years(1);
+        CHECK.due("stranger(3, 7, 1, 1) a year later", x.stranger(3, 7, 1, 1), 32);
+        x = Check.told(Check.row(2, 2, 1, 1));
+        x.spare(1, 1);
+        Check.terrace(x, "terrace 2;soul a at 0 face 1 kind 0;paints look+kind+thinks-5;minds gain;");
+        CHECK.due("stranger(3, 7, 1, 1) behind one who spared", x.stranger(3, 7, 1, 1), 32);
     }
 
     /** "n YEARS AHEAD (1 .. 20)", near the last YEAR, too. */
@@ -310,6 +317,10 @@ public final class AheadEdgesTest {
         Retouched x = Check.told("terrace 5;soul a at 0 face 5 kind 0;soul b at 1 face 5 kind 0;soul c at 3 face 5 kind 0;soul d at 4 face 5 kind 0;"
                 + "thinks a of b 0;thinks b of a 0;thinks c of d 0;thinks d of c 0;paints look-thinks;minds 9;");
         CHECK.due("rest(2) of two pairs", x.rest(2), 5);
+        // The one between the two others spares, or both of these: the fewer, though the bits of the two are less.
+        x = Check.told("terrace 3;soul a at 0 face 5 kind 0;soul b at 2 face 5 kind 0;soul c at 1 face 5 kind 0;"
+                + "thinks a of c 0;thinks c of a 0;thinks b of c 0;thinks c of b 0;paints look-thinks;minds 9;");
+        CHECK.due("rest(2) of the one between", x.rest(2), 4);
     }
 
     /** "a set of PEOPLE who SPARE now (the others paint)": who spares already does not matter. */

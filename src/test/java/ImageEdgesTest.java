@@ -94,7 +94,12 @@ public final class ImageEdgesTest {
         int last = x.octet(82);
         Check.terrace(x, Check.row(9, 1, 1, 1));
         CHECK.due("octet(82) behind terrace()", x.octet(82), last);
-        Check.on(x, 0, 5, 0, 10, 0, 0);
+        CHECK.due("on() of no image", Check.on(x, 0, 5, 0, 10, 0, 0), false);
+        CHECK.due("octet(82) behind a refused on()", x.octet(82), last);
+        int[] bytes = {0, 5, 0, 10, 0, 0};
+        PictureTest.mend(bytes);
+        CHECK.due("on()", Check.on(x, bytes), true);
+        CHECK.due("octet(1) behind on()", x.octet(1), 0);
         CHECK.due("octet(82) behind on()", x.octet(82), last);
         CHECK.due("image() of one", x.image(), 6);
         CHECK.due("octet(5)", x.octet(5) >= 0, true);
@@ -196,6 +201,20 @@ public final class ImageEdgesTest {
         CHECK.due("undo() from then on", x.undo(), true);
         CHECK.due("has(7) behind it", x.has(7), 0);
         CHECK.due("has(6) behind it", x.has(6), 20);
+        // Two whose seeds and draws are alike: one of them takes its own image up between two draws.
+        String slips = Check.row(9, 8, 1, 1) + "slip 100;";
+        Retouched one = Check.told(slips);
+        Retouched other = Check.told(slips);
+        one.seed(77);
+        other.seed(77);
+        one.chance(3);
+        other.chance(3);
+        CHECK.due("on() between two draws", Check.on(one, Check.image(one)), true);
+        one.chance(3);
+        other.chance(3);
+        for (int p = 0; p < 8; p++) {
+            CHECK.due("person(" + p + ", 1) by the same draws", one.person(p, 1), other.person(p, 1));
+        }
     }
 
     /** "Without one all is as at first, nothing is KEPT, SEEN or can be undone; the seed stays." */

@@ -811,6 +811,7 @@ public final class YearEdgesTest {
         int who = draws.draw(2);
         x.chance(1);
         CHECK.due("the seed stays", x.person(who, 1), draws.draw(100));
+        seenBehindActs();
         // seed(), see(), image(), ask() and refused calls can't be undone.
         x = Check.told(Check.row(3, 2, 5, 1));
         x.seed(9);
@@ -820,6 +821,34 @@ public final class YearEdgesTest {
         x.right(0);
         CHECK.due("has(9)", x.has(9), 0);
         CHECK.due("undo()", x.undo(), false);
+    }
+
+    /** Only a new terrace, or another see(), makes SEEN otherwise: its years ahead are counted from what is now then. */
+    private static void seenBehindActs() {
+        Retouched x = Check.told(Check.row(3, 2, 5, 1) + "paints look+thinks;minds thinks;slip 0;");
+        Check.see(x, 1, 0, 53);
+        CHECK.due("thoughts(1, 0)", x.thoughts(1, 0), 1 << 3);
+        CHECK.due("change(0, 2)", x.change(0, 2), true);
+        seen(x, 1 << 3);
+        CHECK.due("spare(0, 1)", x.spare(0, 1), true);
+        seen(x, 1 << 3);
+        CHECK.due("spare(1, 1)", x.spare(1, 1), true);
+        seen(x, 0);
+        CHECK.due("spare(1, 0)", x.spare(1, 0), true);
+        seen(x, 1 << 3);
+        CHECK.due("years(1)", x.years(1), 0);
+        seen(x, 0);
+        CHECK.due("chance(1)", x.chance(1), 0);
+        seen(x, 0);
+        CHECK.due("right(0)", x.right(0), true);
+        seen(x, 1 << 3);
+        CHECK.due("undo()", x.undo(), true);
+        seen(x, 0);
+    }
+
+    private static void seen(Retouched x, int thoughts) {
+        CHECK.due("has(8)", x.has(8), 1);
+        CHECK.due("thoughts(1, 0)", x.thoughts(1, 0), thoughts);
     }
 
     private static void undone(Retouched x, int[] image) {
