@@ -7,6 +7,7 @@ public final class AskTest {
 
     public static void main(String[] args) {
         words();
+        wordsBehindActs();
         verbs();
         thinksAndBack();
         sums();
@@ -39,6 +40,25 @@ public final class AskTest {
         due("first spares=1", 1);
         due("first look=0", 2);
         due("first number=2", 2);
+    }
+
+    /** Each word tells what is so now; face and kind stay the true ones, however one is painted. */
+    private static void wordsBehindActs() {
+        Retouched x = Check.told(THREE + "paints look+13;minds 4;");
+        x.change(1, 3);
+        x.years(3);
+        x.spare(2, 1);
+        // a is at 4 and b at 3 beside him: each was painted three times by the other one; c is alone at 0.
+        long[][] due = {{0, 4, 69, 3, 4, 0, 3}, {1, 3, 99, 6, 1, 0, 3}, {2, 0, 0, 0, 8, 1, 3}};
+        String[] words = {"number", "house", "look", "face", "kind", "spares", "year"};
+        for (int p = 0; p < 3; p++) {
+            for (int w = 0; w < words.length; w++) {
+                String text = "total " + words[w] + "*(1-min(1,max(number-" + p + "," + p + "-number)))";
+                CHECK.due("ask() of " + text, Check.ask(x, text), due[p][w]);
+            }
+        }
+        CHECK.due("total thinks 0", Check.ask(x, "total thinks 0"), 4 + 9);
+        CHECK.due("total back 0", Check.ask(x, "total back 0"), 4 + 5);
     }
 
     private static void verbs() {
